@@ -39,12 +39,12 @@ public final class RestDays {
 
     public RestDays() {
         tape = new byte[TAPE_MOST];
-        parser = new Parser();
         told = new Land();
         draft = new Land();
-        earnest = new Earnest();
+        parser = new Parser(tape, draft);
+        earnest = new Earnest(told);
         now = earnest.scene;
-        mind = new Scene();
+        mind = new Scene(told);
         acts = new Acts();
         boxes = new int[BOXES * Earnest.ROW];
         kept = new boolean[BOXES];
@@ -99,7 +99,7 @@ public final class RestDays {
     public int land() {
         int bytes = taped;
         taped = 0;
-        if (!parser.reads(tape, bytes, draft)) {
+        if (!parser.reads(bytes, draft)) {
             return NONE;
         }
         Land before = told;
@@ -593,16 +593,19 @@ public final class RestDays {
         static final int BAD = 25;
         // a sign is its own kind: all of them are above these
 
-        private byte[] text;
+        private final byte[] text;
         private int length;
         int count;
         final int[] kinds = new int[TAPE_MOST + 1];
         final int[] places = new int[TAPE_MOST + 1];
         final long[] values = new long[TAPE_MOST + 1];
 
+        Tokens(byte[] text) {
+            this.text = text;
+        }
+
         /** n is at most TAPE_MOST, so there is room for END behind as many TOKENS as bytes. */
-        void cut(byte[] bytes, int n) {
-            text = bytes;
+        void cut(int n) {
             length = n;
             count = 0;
             int at = 0;
@@ -721,7 +724,7 @@ public final class RestDays {
         static final int TERM = 4;
         static final int UNIT = 5;
 
-        private final Tokens tokens = new Tokens();
+        private final Tokens tokens;
         private final long[] names = new long[Land.SORTS * Land.THINGS_MOST];
         private Land land;
         /** The TOKEN that is looked at. */
@@ -733,8 +736,13 @@ public final class RestDays {
         int fault;
         int place = NONE;
 
-        boolean reads(byte[] text, int n, Land into) {
-            tokens.cut(text, n);
+        Parser(byte[] text, Land land) {
+            tokens = new Tokens(text);
+            this.land = land;
+        }
+
+        boolean reads(int n, Land into) {
+            tokens.cut(n);
             land = into;
             land.empty();
             fault = 0;
@@ -1053,6 +1061,10 @@ public final class RestDays {
         final int[] feasts = new int[Land.FEASTS];
         private final int[] stack = new int[STACK];
 
+        Scene(Land of) {
+            begin(of);
+        }
+
         void begin(Land of) {
             land = of;
             days = of.days;
@@ -1233,11 +1245,15 @@ public final class RestDays {
         static final int CRIMES = CLOCK + 5;
         static final int ROW = CRIMES + 2 * CRIMES_MOST;
 
-        final Scene scene = new Scene();
+        final Scene scene;
         int hours;
         int crimes;
         final int[] crimeHours = new int[CRIMES_MOST];
         final int[] crimeBans = new int[CRIMES_MOST];
+
+        Earnest(Land land) {
+            scene = new Scene(land);
+        }
 
         void begin(Land land) {
             scene.begin(land);
@@ -1511,7 +1527,7 @@ public final class RestDays {
 
         private final Scene now;
         private final Scene mind;
-        private final Scene trial = new Scene();
+        private final Scene trial;
         private int thing;
         private int least;
         private int most;
@@ -1520,6 +1536,7 @@ public final class RestDays {
         Wishes(Scene now, Scene mind) {
             this.now = now;
             this.mind = mind;
+            trial = new Scene(now.land);
         }
 
         void aim(int thing, int least, int most, int span) {
@@ -1710,7 +1727,7 @@ public final class RestDays {
 
         private final Looks looks;
         private final Scene mind;
-        private final Scene trial = new Scene();
+        private final Scene trial;
         private final int[] known = new int[(Looks.HOURS_MOST + 1) * Land.THINGS_MOST];
         private final int[] seen = new int[Land.THINGS_MOST];
         private final int[] left = new int[Land.THINGS_MOST * NUMBERS];
@@ -1719,6 +1736,7 @@ public final class RestDays {
         Fits(Looks looks, Scene mind) {
             this.looks = looks;
             this.mind = mind;
+            trial = new Scene(mind.land);
         }
 
         /** How many FIT; seen behind HOUR asked, if it is not NONE, they are counted by THINGS. */

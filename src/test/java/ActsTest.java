@@ -126,8 +126,10 @@ final class ActsTest {
         x.shift(0, 2);
         x.hours(1);
         Checks.same("ACTS", x.about(11), 5);
+        Checks.same("HOUR ahead", x.about(8), 1);
         Checks.yes("undo hours", x.undo());
         Checks.same("HOURS", x.about(9), 2);
+        Checks.same("HOUR", x.about(8), 0);
         Checks.same("a", x.thing(0), 102);
         Checks.yes("undo shift", x.undo());
         Checks.same("feast(0)", x.feast(0), 1);
@@ -270,6 +272,16 @@ final class ActsTest {
         Checks.same("image over it", x.image(2), 7);
         x.hours(1);
         Checks.same("back to it", x.back(2), 7);
+        Checks.same("at HOUR 1 of it", x.about(8), 1);
+        x.hours(4);
+        x.shift(0, 0);
+        x.undo();
+        Checks.yes("undo to what was kept", x.undo());
+        Checks.same("HOURS of it", x.about(9), 7);
+        Checks.same("DAY of it", x.about(7), 3);
+        Checks.same("HOUR of it", x.about(8), 1);
+        Checks.same("feast of it", x.feast(0), 2);
+        Checks.same("CRIMES of it", x.about(10), crimes);
     }
 
     private static void sets() {

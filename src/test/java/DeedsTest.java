@@ -7,6 +7,8 @@ final class DeedsTest {
         planOfNothing();
         spent(203);
         spent(202);
+        spentButFor(443);
+        spentButFor(442);
         most();
         mostOfGap();
         loophole();
@@ -118,6 +120,28 @@ final class DeedsTest {
         Checks.same("loophole of " + ones, x.loophole(0, 1), RestDays.GAP - 1);
     }
 
+    /** 1, 6, 36, 216, 1,296 and, but for those that become another, 3,888; a is come to again. */
+    private static void spentButFor(int others) {
+        StringBuilder s = new StringBuilder("week 2 hours 6;thing a 0 to 999;thing b 0 to 9;thing c 0 to 9;"
+                + "law k rests 1 if hour<2 then a becomes a*6;"
+                + "law l rests 1 if hour=4 also c=2 also a*6+b<" + others
+                + " then a becomes 0 and b becomes 0 and c becomes 0;deed a if 1 then a becomes a;");
+        for (int d = 1; d <= 5; d++) {
+            s.append("deed ").append((char) ('a' + d)).append(" if hour<").append(d < 3 ? 5 : 4);
+            s.append(" then a becomes a+").append(d).append("*(hour<3) and b becomes b+").append(d);
+            s.append("*(hour=3) and c becomes c+").append(d).append("*(hour=4);");
+        }
+        s.append("gain a+b*1000+c*9000;goal c=1 also a=215 also b=5;");
+        RestDays x = Checks.told(s.toString());
+        boolean isSpent = others == 442;
+        Checks.same("plan(5) but for " + others, x.plan(5), isSpent ? -2 : 5);
+        Checks.same("lie there but for " + others, x.about(17), isSpent ? 0 : 5);
+        Checks.same("most(5) but for " + others, x.most(5), isSpent ? RestDays.GAP - 1 : 23215);
+        if (!isSpent) {
+            Checks.lie("most(5) but for " + others, x, 5, 5, 5, 5, 2);
+        }
+    }
+
     private static void most() {
         RestDays x = Checks.told("week 2 hours 1;thing a 1 to 99;deed x if 1 then a becomes a+3;"
                 + "deed y if a<20 then a becomes a*2;deed z if 1 then a becomes a+3;ban n rests 1 if a=7;gain a;");
@@ -141,6 +165,10 @@ final class DeedsTest {
         Checks.same("by the clock gone on", x.most(2), 2);
         Checks.same("nothing is lawful", x.most(3), RestDays.GAP);
         Checks.lie("nothing is lawful", x);
+        x = Checks.told("thing a 0 to 9;thing b 0 to 9;deed x if b<2 then a becomes a+1 and b becomes 1;"
+                + "deed y if 1 then a becomes a+1;gain a;");
+        Checks.same("like gains", x.most(2), 2);
+        Checks.lie("the first of like ones", x, 0, 0);
         x = Checks.told("thing a 0 to 9;deed x if 1 then a becomes 1;deed y if 1 then a becomes 2;gain 0-a;");
         Checks.same("below 0 or none", x.most(2), 0);
         Checks.lie("below 0 or none", x, -1, -1);
@@ -199,6 +227,15 @@ final class DeedsTest {
         Checks.same("of three HOURS", x.loophole(0, 1), 12 - 11);
         x.hours(4);
         Checks.same("DAY 0 by its number", x.loophole(0, 1), 1);
+        x = Checks.told("week 2 hours 3;thing a 0 to 99;law k rests 1 if hour=0 then a becomes a+1;"
+                + "law l rests 1 if hour=2 then a becomes a+5;law m rests 0 if day=1 then a becomes 50;"
+                + "gain a*(hour=0)*(day=1);");
+        for (int h = 0; h < 3; h++) {
+            // neither: 0; k: 1; l: 5
+            Checks.same("from HOUR 0, at HOUR " + h, x.loophole(0, 1), -5);
+            x.hours(1);
+            x.deed(0);
+        }
     }
 
     private static void lies() {

@@ -7,6 +7,7 @@ final class FeastsTest {
     public static void main(String[] args) {
         amend();
         amendInOrder();
+        amendToDayNone();
         amendFromNow();
         all();
         tooManyCalendars();
@@ -58,6 +59,18 @@ final class FeastsTest {
         Checks.lie("l to 2, m to 0", x, 12, 20);
         Checks.same("k to 2, m to 0", x.amend(0, 6, 6, 4), 2);
         Checks.lie("k to 2, m to 0", x, 2, 20);
+    }
+
+    private static void amendToDayNone() {
+        RestDays x = Checks.told("week 3 hours 1;thing a 9 to 9;thing b 0 to 99;law k rests 2 if day=0 then b becomes b+1;"
+                + "law l rests 1 if day=0 then b becomes b+2;law m rests 0 if day=0 then b becomes b+4;");
+        Checks.same("b as it is", x.amend(1, 3, 3, 3), 0);
+        Checks.same("k and l to 0", x.amend(1, 0, 0, 3), 2);
+        Checks.lie("k and l to 0", x, 0, 10);
+        Checks.same("k to 0, m to 1", x.amend(1, 6, 6, 3), 2);
+        Checks.lie("k to 0, m to 1", x, 0, 21);
+        Checks.same("all of b", x.all(1, 1, 2, 3), 2 + 2);
+        Checks.lie("all of b", x, 0, 1, 0);
     }
 
     private static void amendFromNow() {

@@ -9,6 +9,7 @@ final class TextTest {
         newObject();
         tape();
         landStands();
+        landAgainAndAgain();
         faultLeavesAll();
         tokens();
         places();
@@ -94,6 +95,31 @@ final class TextTest {
         Checks.same("an empty LAND: thing(0)", x.thing(0), RestDays.NONE);
         Checks.same("blanks", Checks.land(x, " \n\n  "), 0);
         Checks.same("blanks: fault", x.fault(0), 0);
+    }
+
+    private static void landAgainAndAgain() {
+        RestDays x = new RestDays();
+        for (int i = 0; i < 60; i++) {
+            String e = "1" + Checks.many("+1", 14);
+            Checks.same("land " + i, Checks.land(x, "thing a 1 to 2;goal " + e + "+" + i + ";"), 1);
+            Checks.same("units " + i, x.about(16), 16);
+            Checks.same("goal " + i, x.says(0), 15 + i);
+            Checks.same("HOUR " + i, x.about(8), 0);
+            Checks.same("HOURS " + i, x.about(9), 0);
+            Checks.same("DAY " + i, x.about(7), 0);
+            x.hours(i % 20);
+        }
+        x = Checks.told("ban n rests 6 if 1;");
+        x.hours(5);
+        x.image(0);
+        Checks.same("crimes", x.about(10), 5);
+        Checks.land(x, "ban n rests 0 if 1;");
+        Checks.same("no crimes", x.about(10), 0);
+        Checks.same("empty boxes", x.back(0), RestDays.NONE);
+        x.hours(5);
+        x.undo();
+        Checks.same("undone to what was told", x.about(8), 0);
+        Checks.same("undone to no HOUR", x.about(9), 0);
     }
 
     private static void faultLeavesAll() {

@@ -94,6 +94,10 @@ final class WillTest {
         // a 7, b 0, c 0: m can do nothing, k and o neither
         Checks.same("l, k then", x.clash(1, 0), 0);
         Checks.same("m, n then", x.clash(2, 3), 0);
+        x = Checks.told("thing a 0 to 9;thing b 0 to 9;law k rests 1 if a=0 then a becomes 1;"
+                + "law l rests 1 if a=1 then b becomes 1;");
+        Checks.same("l can do nothing now, but behind k", x.clash(0, 1), 0);
+        Checks.same("nor the other way about", x.clash(1, 0), 0);
         x = Checks.told("thing a 0 to 9;law k rests 0 if 1 then a becomes 9;law l rests 0 if 1 then a becomes 8;");
         Checks.same("both rest", x.clash(0, 1), 0);
         x.leap();
