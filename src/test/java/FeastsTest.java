@@ -71,6 +71,8 @@ final class FeastsTest {
         Checks.lie("k to 0, m to 1", x, 0, 21);
         Checks.same("all of b", x.all(1, 1, 2, 3), 2 + 2);
         Checks.lie("all of b", x, 0, 1, 0);
+        Checks.same("all whatever b is", x.all(1, 0, 99, 3), 27);
+        Checks.lie("all whatever b is", x, 0, 0, 0);
     }
 
     private static void amendFromNow() {

@@ -93,12 +93,15 @@ final class LooksTest {
         x = Checks.told("week 2 hours 2;thing a 5 to 9;law k rests 0 if day then a becomes a+hour;");
         Checks.same("a as told", x.look(0, 0, 5), 0);
         Checks.same("fit(0)", x.fit(0), 2);
-        Checks.same("a not as told", x.look(0, 0, 6), 1);
-        Checks.same("fit(0) of what was not so", x.fit(0), 0);
-        x.untell(1);
         x.look(60, 0, 9);
         Checks.same("fit(0) of 60 HOURS", x.fit(0), 1);
         Checks.same("rests(0, 0)", x.rests(0, 0), 1);
+        x = Checks.told(TWO);
+        Checks.same("a not as told", x.look(0, 0, 6), 0);
+        Checks.same("fit(0) of what was not so", x.fit(0), 0);
+        x.untell(0);
+        x.look(0, 0, 0);
+        Checks.same("fit(0) of what was so", x.fit(0), 9);
     }
 
     private static void twentyLooks() {

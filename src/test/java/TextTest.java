@@ -100,10 +100,12 @@ final class TextTest {
     private static void landAgainAndAgain() {
         RestDays x = new RestDays();
         for (int i = 0; i < 60; i++) {
-            String e = "1" + Checks.many("+1", 14);
-            Checks.same("land " + i, Checks.land(x, "thing a 1 to 2;goal " + e + "+" + i + ";"), 1);
-            Checks.same("units " + i, x.about(16), 16);
-            Checks.same("goal " + i, x.says(0), 15 + i);
+            String e = "1" + Checks.many("+1", 28);
+            String land = "thing a 1 to 2;goal " + e + "+" + i + ";gain " + e + "-" + i + ";";
+            Checks.same("land " + i, Checks.land(x, land), 1);
+            Checks.same("units " + i, x.about(16), 60);
+            Checks.same("goal " + i, x.says(0), 29 + i);
+            Checks.same("gain " + i, x.says(1), 29 - i);
             Checks.same("HOUR " + i, x.about(8), 0);
             Checks.same("HOURS " + i, x.about(9), 0);
             Checks.same("DAY " + i, x.about(7), 0);
