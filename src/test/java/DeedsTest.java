@@ -104,7 +104,10 @@ final class DeedsTest {
             s.append("*(hour<3) and b becomes b+").append(d).append("*(hour>2);");
         }
         s.append("gain a+b*1000;goal hour=5;");
-        RestDays x = Checks.told(s.toString());
+        // what is come to by a crime alone does not count
+        RestDays x = Checks.told(s + "ban n rests 1 if hour=4 also a=341 also b=6;");
+        Checks.same("plan(5) but for a crime, of " + ones, x.plan(5), 5);
+        x = Checks.told(s.toString());
         Checks.same("most(4)", x.most(4), 6342);
         Checks.lie("most(4)", x, 5, 5, 5, 5);
         boolean isSpent = ones == 202;

@@ -180,6 +180,7 @@ final class TextTest {
         fault("goal 1a;", 1, 5);
         fault("goal 1or 1;", 1, 5);
         fault("goal 99999x;", 1, 5);
+        fault("goal 1A;", 1, 6);
         fault("thing abcdefghi 1 to 2;", 1, 6);
         fault("thing a1to2;", 1, 7);
         fault("thing a`", 1, 7);
