@@ -1,5 +1,5 @@
 /** Promises 25 to 28: SHIFT and ALL for a WISH, GUILDS, ONE DAY MORE. */
-final class FeastsTest {
+final class FeastsTest extends Texts {
     private static final String TWO = "week 3 hours 1;thing a 0 to 9;law k rests 0 if 1 then a becomes a+1;"
             + "law l rests 0 if 1 then a becomes a+2;";
     private static final int NONE = RestDays.NONE;
@@ -118,27 +118,19 @@ final class FeastsTest {
         Checks.same("no LAWS, never", x.all(0, 4, 4, 5), 0);
     }
 
-    private static String laws(int days, int laws) {
-        StringBuilder s = new StringBuilder("week " + days + " hours 1;thing a 0 to 99;");
-        for (int l = 0; l < laws; l++) {
-            s.append("law ").append((char) ('a' + l)).append(" rests 0 if 1 then a becomes a+1;");
-        }
-        return s.toString();
-    }
-
     private static void tooManyCalendars() {
-        RestDays x = Checks.told(laws(7, 5));
+        RestDays x = Checks.told(alikeLaws(7, 5));
         Checks.same("7 DAYS, 5 LAWS", x.all(0, 5, 5, 1), 6 * 6 * 6 * 6 * 6);
         Checks.lie("7 DAYS, 5 LAWS", x, 1, 1, 1, 1, 1);
         Checks.same("fit", x.fit(0), 16807);
-        x = Checks.told(laws(8, 5));
+        x = Checks.told(alikeLaws(8, 5));
         x.guilds(0);
         Checks.same("8 DAYS, 5 LAWS", x.all(0, 5, 5, 1), -2);
         Checks.lie("8 DAYS, 5 LAWS", x);
         Checks.same("wrong ahead of SPENT", x.all(1, 5, 5, 1), NONE);
         Checks.same("SHIFT is not SPENT", x.amend(0, 2, 2, 1), 2);
-        Checks.same("9 DAYS, 4 LAWS", Checks.told(laws(9, 4)).all(0, 0, 3, 1), 9 * 9 * 9 * 9 - 8 * 8 * 8 * 8);
-        Checks.same("9 DAYS, 5 LAWS", Checks.told(laws(9, 5)).all(0, 0, 3, 1), -2);
+        Checks.same("9 DAYS, 4 LAWS", Checks.told(alikeLaws(9, 4)).all(0, 0, 3, 1), 9 * 9 * 9 * 9 - 8 * 8 * 8 * 8);
+        Checks.same("9 DAYS, 5 LAWS", Checks.told(alikeLaws(9, 5)).all(0, 0, 3, 1), -2);
     }
 
     private static void wrongWishes() {

@@ -1,5 +1,5 @@
 /** Promises 30 to 35: LOOKS, the TIME, FIT and ASK. */
-final class LooksTest {
+final class LooksTest extends Texts {
     private static final int NONE = RestDays.NONE;
     private static final String TWO = "week 3 hours 1;thing a 0 to 9;thing b 0 to 9;"
             + "law k rests 0 if 1 then a becomes a+1;law l rests 0 if 1 then b becomes b+1;";
@@ -162,16 +162,8 @@ final class LooksTest {
         Checks.same("known then", x.fit(100000), 6);
     }
 
-    private static String laws(int days, int laws) {
-        StringBuilder s = new StringBuilder("week " + days + " hours 1;thing a 0 to 99;");
-        for (int l = 0; l < laws; l++) {
-            s.append("law ").append((char) ('a' + l)).append(" rests 0 if 1 then a becomes a+1;");
-        }
-        return s.toString();
-    }
-
     private static void spent() {
-        RestDays x = Checks.told(laws(8, 5));
+        RestDays x = Checks.told(alikeLaws(8, 5));
         Checks.same("fit", x.fit(0), -2);
         Checks.same("rests", x.rests(4, 0), -2);
         Checks.same("rests of none such", x.rests(5, 0), NONE);
@@ -180,12 +172,12 @@ final class LooksTest {
         Checks.same("ask in 61", x.ask(61, 1, 0), NONE);
         x.look(0, 0, 5);
         Checks.same("though none can FIT", x.fit(0), -2);
-        x = Checks.told(laws(7, 5));
+        x = Checks.told(alikeLaws(7, 5));
         x.look(1, 0, 0);
         Checks.same("16,807 calendars", x.fit(0), 1);
         Checks.same("rests(4, 0)", x.rests(4, 0), 1);
-        Checks.same("9 DAYS, 4 LAWS", Checks.told(laws(9, 4)).fit(0), 6561);
-        Checks.same("bits", Checks.told(laws(9, 4)).rests(3, 0), 511);
+        Checks.same("9 DAYS, 4 LAWS", Checks.told(alikeLaws(9, 4)).fit(0), 6561);
+        Checks.same("bits", Checks.told(alikeLaws(9, 4)).rests(3, 0), 511);
     }
 
     private static void wrongInputs() {

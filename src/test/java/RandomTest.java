@@ -7,6 +7,7 @@ import java.util.Random;
  * calls. The seeds are fixed: the arguments (from, to) choose others.
  */
 final class RandomTest {
+    private static final int CALLS = 512;
     private static final int[] ODD = {-1, Integer.MIN_VALUE, Integer.MAX_VALUE, -2, 7, 20, 61, 101, 301,
         1000, 1001, 100000};
 
@@ -44,7 +45,7 @@ final class RandomTest {
             for (int j = 0; model.fault(0) != 0 && j < 4; j++) {
                 tell();
             }
-            for (int j = 0; j < 80 && calls.size() < 440 && !wrong; j++) {
+            for (int j = 0; j < 80 && calls.size() < CALLS && !wrong; j++) {
                 call();
             }
         }
@@ -77,7 +78,8 @@ final class RandomTest {
 
     private void same(String call, long got, long due) {
         calls.add(call + " -> " + due);
-        if (got != due && !wrong) {
+        // nothing is promised of what is called behind the 512th
+        if (got != due && !wrong && calls.size() <= CALLS) {
             calls.add("ANSWERED " + got);
             wrong = true;
         }

@@ -1,5 +1,5 @@
 /** Promises 1 to 5: a new object, the TAPE, a LAND and its FAULTS; what formulas come to (11). */
-final class TextTest {
+final class TextTest extends Texts {
     private static final String A = "thing a 1 to 2;";
     private static final String[] RESERVED = {"week", "hours", "thing", "to", "law", "rests", "if", "then",
         "and", "deed", "ban", "goal", "gain", "guild", "of", "wants", "becomes", "or", "also", "not", "day",
@@ -99,7 +99,7 @@ final class TextTest {
 
     private static void landAgainAndAgain() {
         RestDays x = new RestDays();
-        for (int i = 0; i < 60; i++) {
+        for (int i = 0; i < 25; i++) {
             String e = "1" + Checks.many("+1", 28);
             String land = "thing a 1 to 2;goal " + e + "+" + i + ";gain " + e + "-" + i + ";";
             Checks.same("land " + i, Checks.land(x, land), 1);
@@ -153,17 +153,6 @@ final class TextTest {
         Checks.same("then none", x.land(), 0);
         Checks.same("then none: 0", x.fault(0), 0);
         Checks.same("then none: 1", x.fault(1), RestDays.NONE);
-    }
-
-    private static void fault(String text, int what, int place) {
-        RestDays x = new RestDays();
-        Checks.same("land: " + text, Checks.land(x, text), RestDays.NONE);
-        Checks.same("fault of: " + text, x.fault(0), what);
-        Checks.same("place of: " + text, x.fault(1), place);
-    }
-
-    private static RestDays good(String text) {
-        return Checks.told(text);
     }
 
     private static void tokens() {
@@ -369,13 +358,6 @@ final class TextTest {
         // one behind the other they are not within one another
         Checks.same("side by side", good("goal " + Checks.many("(((((((1)))))))+", 2) + "(((((((1)))))));").says(0), 3);
         Checks.same("not and not", good("goal not not 1 also not not not 0 or not 1;").says(0), 1);
-    }
-
-    private static void comes(String e, int due) {
-        RestDays x = new RestDays();
-        Checks.land(x, "thing a 7 to 9;gain " + e + ";");
-        Checks.same("fault of " + e, x.fault(0), 0);
-        Checks.same(e, x.says(1), due);
     }
 
     private static void formulas() {
