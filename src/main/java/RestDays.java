@@ -283,17 +283,15 @@ public final class RestDays {
                 || !told.tells(Land.GAIN)) {
             return GAP;
         }
-        boolean none = false;
-        boolean spent = false;
         int both = gainOfRest(law, other);
-        none |= search.found == NONE;
-        spent |= search.spent;
+        boolean none = search.found == NONE;
+        boolean spent = search.spent;
         int one = gainOfRest(law, law);
-        none |= search.found == NONE;
-        spent |= search.spent;
+        none = none || search.found == NONE;
+        spent = spent || search.spent;
         int two = gainOfRest(other, other);
-        none |= search.found == NONE;
-        spent |= search.spent;
+        none = none || search.found == NONE;
+        spent = spent || search.spent;
         if (spent) {
             return GAP - 1;
         }
@@ -1624,7 +1622,7 @@ public final class RestDays {
                     int law = now.land.guildLaws[guild];
                     int before = trial.feasts[law];
                     trial.feasts[law] = bestDay(guild, law, n);
-                    changed |= trial.feasts[law] != before;
+                    changed = changed || trial.feasts[law] != before;
                 }
                 if (!changed) {
                     layFeasts(lying);
