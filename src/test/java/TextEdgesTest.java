@@ -29,6 +29,7 @@ final class TextEdgesTest extends Texts {
         fullLand();
         fullText();
         cutAnywhere();
+        cutOffIsGone();
         thirtyUnits();
         withinEachOther();
         anewInEach();
@@ -472,6 +473,37 @@ final class TextEdgesTest extends Texts {
             }
         }
         Checks.same("lines", lines, 1 + 1 + 6 + 5 + 6 + 4 + 2 + 4);
+    }
+
+    /** What end(n) cuts off does not count, whatever it was; nor does what an earlier text had there. */
+    private static void cutOffIsGone() {
+        String[] whole = {"goal 1a", "goal 12345", "goal 1 or 2", "thing abcdefghi", "goal 1;$", "goal 1;goal 2;", "goal 1;;",
+            "weekhours", "week 10", "week 3 hours 66;", "thing aa 1 to 2;"};
+        int[] bytes = {6, 9, 6, 14, 7, 7, 7, 4, 6, 14, 7};
+        int[] what = {2, 2, 2, 2, 0, 0, 0, 2, 4, 2, 2};
+        int[] place = {6, 9, 6, 14, -1, -1, -1, 4, 5, 14, 7};
+        for (int i = 0; i < whole.length; i++) {
+            RestDays x = new RestDays();
+            Checks.feed(x, whole[i]);
+            Checks.same("cut: " + whole[i], x.end(bytes[i]), bytes[i]);
+            x.land();
+            Checks.same("FAULT of what is left of: " + whole[i], x.fault(0), what[i]);
+            Checks.same("place in what is left of: " + whole[i], x.fault(1), place[i]);
+            x = new RestDays();
+            Checks.land(x, whole[i]);
+            Checks.feed(x, whole[i].substring(0, bytes[i]));
+            x.land();
+            Checks.same("FAULT behind an earlier text: " + whole[i], x.fault(0), what[i]);
+            Checks.same("place behind an earlier text: " + whole[i], x.fault(1), place[i]);
+        }
+        RestDays x = new RestDays();
+        Checks.feed(x, "goal 1;gain 2;");
+        x.end(7);
+        x.land();
+        Checks.same("the line that is left", x.says(0), 1);
+        Checks.same("the line that is gone", x.says(1), 0);
+        Checks.same("an empty text behind it", x.land(), 0);
+        Checks.same("has none of its lines", x.says(0), 0);
     }
 
     private static String units(int n) {
