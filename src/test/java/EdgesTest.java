@@ -12,6 +12,7 @@ final class EdgesTest extends Texts {
     public static void main(String[] args) {
         wrapping();
         byNought();
+        partsOfParts();
         truths();
         sets();
         theClock();
@@ -99,6 +100,43 @@ final class EdgesTest extends Texts {
         x.hours(1);
         Checks.same("a LAW by 0", x.thing(0), 3);
         Checks.same("a BAN by 0", x.crime(0, 1), 1);
+    }
+
+    /** Each sign between the second part of another and what is in ( ), late in a week. */
+    private static void partsOfParts() {
+        String[] signs = {"+", "-", "*", "/", "%", "<", ">", "=", " also ", " or "};
+        int[][] pairs = {{7, 2}, {2, 7}, {3, 3}, {0, 4}, {4, 0}, {0, 0}};
+        for (String sign : signs) {
+            for (int[] p : pairs) {
+                String e = p[0] + sign + p[1];
+                int due = by(sign, p[0], p[1]);
+                String land = "week 9 hours 6;gain 5000-(" + e + ");goal 9*(8-(100-(" + e + ")*3));ban n rests 0 if 70=70+("
+                        + e + ");";
+                RestDays x = Checks.told(land);
+                x.hours(7 * 6 + 4);
+                Checks.same("behind another: " + e, x.says(1), 5000 - due);
+                Checks.same("within others: " + e, x.says(0), 9 * (8 - (100 - due * 3)));
+                Checks.same("in a BAN: " + e, x.broken(), due == 0 ? 1 : 0);
+            }
+        }
+        RestDays x = Checks.told("week 9 hours 6;gain day*1000+hour*100+7/2+9%5*2-(1 or 0);");
+        x.hours(3 * 6 + 5);
+        Checks.same("one behind the other", x.says(1), 3000 + 500 + 3 + 8 - 1);
+    }
+
+    private static int by(String sign, int a, int b) {
+        switch (sign) {
+            case "+": return a + b;
+            case "-": return a - b;
+            case "*": return a * b;
+            case "/": return b == 0 ? 0 : a / b;
+            case "%": return b == 0 ? 0 : a % b;
+            case "<": return a < b ? 1 : 0;
+            case ">": return a > b ? 1 : 0;
+            case "=": return a == b ? 1 : 0;
+            case " also ": return a != 0 && b != 0 ? 1 : 0;
+            default: return a != 0 || b != 0 ? 1 : 0;
+        }
     }
 
     private static void truths() {
@@ -417,6 +455,12 @@ final class EdgesTest extends Texts {
         Checks.same("from now", x.will(0, 300), 360);
         Checks.same("now", x.will(0, 0), 60);
         Checks.same("without THINGS", new RestDays().will(0, 0), NONE);
+        x = Checks.told("thing a 3 to 9;law k rests 0 if 0 then a becomes 0;law l rests 0 if 0 then a becomes 0;");
+        Checks.same("fewer THINGS than LAWS: the last", x.will(0, 1), 3);
+        Checks.same("fewer THINGS than LAWS: none such", x.will(1, 1), NONE);
+        x = Checks.told("thing a 3 to 9;thing b 4 to 9;law k rests 0 if 0 then a becomes 0;");
+        Checks.same("more THINGS than LAWS", x.will(1, 1), 4);
+        Checks.same("without LAWS", Checks.told("thing a 3 to 9;").will(0, 300), 3);
     }
 
     /** a grows six a week of twelve HOURS, on DAY 0, till it is as much as it can be: then a week more. */
@@ -477,6 +521,19 @@ final class EdgesTest extends Texts {
             Checks.same("the last of " + n, x.lies(n - 1), 0);
             Checks.same("behind the last of " + n, x.lies(n), GAP);
         }
+        // what was more behind an earlier HOUR is gone behind the n-th
+        RestDays x = Checks.told("thing a 4 to 9;deed x if hour=0 then a becomes 5;deed y if hour=0 then a becomes 6;"
+                + "deed z if hour=0 then a becomes 7;law k rests 6 if hour=1 then a becomes a%5;gain a;");
+        Checks.same("behind the first", x.most(1), 7);
+        Checks.lie("behind the first", x, 2);
+        for (int n = 2; n <= 4; n++) {
+            Checks.same("behind HOUR " + n, x.most(n), 4);
+            int[] due = new int[n];
+            java.util.Arrays.fill(due, NONE);
+            Checks.lie("behind HOUR " + n, x, due);
+        }
+        Checks.same("on another DAY", x.most(5), 7);
+        Checks.lie("on another DAY", x, 0, NONE, NONE, NONE, 2);
     }
 
     private static String keep(int hours, String laws) {
@@ -564,6 +621,11 @@ final class EdgesTest extends Texts {
             Checks.same("not from " + w[0] + " to " + w[1], x.amend(1, w[0], w[1], 0), NONE);
             Checks.same("none from " + w[0] + " to " + w[1], x.all(1, w[0], w[1], 0), 0);
         }
+        // the DAY is as many as the first THING is
+        x = Checks.told("week 3 hours 1;thing a 1 to 9;thing b 0 to 9;law k rests 0 if 1 then b becomes b+1;"
+                + "law l rests 0 if 1 then b becomes b+2;");
+        Checks.same("both to DAY 1", x.amend(1, 3, 3, 1), 2);
+        Checks.lie("both to DAY 1", x, 1, 11);
         // a FEAST on the last DAY of the longest week, of the last LAW
         StringBuilder s = new StringBuilder("week 9 hours 1;thing a 0 to 9;");
         for (char c = 'p'; c < 'u'; c++) {
@@ -595,6 +657,24 @@ final class EdgesTest extends Texts {
         Checks.lie("in 101 HOURS", x);
         Checks.same("in no HOUR", x.guilds(0), 1);
         Checks.same("wants MIN", Checks.told(land + BOTTOM + ";").guilds(1), 1);
+        // the first GUILD is of the last LAW, the last one of the first; one LAW has two, one has none
+        x = Checks.told("week 3 hours 1;thing a 0 to 9;thing b 0 to 9;thing c 0 to 9;"
+                + "law k rests 0 if day=0 then a becomes 1;law l rests 0 if day=0 then b becomes 1;"
+                + "law m rests 1 if day=1 then c becomes 1;guild g of m wants c;guild h of m wants c*2;guild i of k wants a;");
+        Checks.same("GUILDS of other numbers", x.guilds(2), 2);
+        Checks.lie("GUILDS of other numbers", x, 1, 0, 0);
+        Checks.same("in one HOUR", x.guilds(1), 2);
+        Checks.lie("in one HOUR", x, 1, 0, 1);
+        // of all DAYS alike the one on which it is, whatever another FEAST would bring
+        x = Checks.told("week 2 hours 1;thing a 0 to 1;law k rests 0 if day=0 then a becomes 1;"
+                + "law l rests 1 if 0 then a becomes 0;guild g of l wants 0-a;");
+        Checks.same("all DAYS alike", x.guilds(2), 1);
+        Checks.lie("all DAYS alike", x, 0, 1);
+        // in the second turn DAY 0 would do for k again, but it stays on DAY 1, as it is by then
+        x = Checks.told("week 2 hours 1;thing a 0 to 1;thing b 0 to 1;law k rests 0 if day=0 then a becomes 1;"
+                + "law l rests 0 if day=0 then b becomes 1;guild g of k wants a*(b=0);guild h of l wants b;");
+        Checks.same("as it is by then", x.guilds(2), 2);
+        Checks.lie("as it is by then", x, 1, 1);
         x = Checks.told(land + TOP + "+a;");
         // MAX rather than MIN: it rests on DAY 0 still
         Checks.same("wants what wraps", x.guilds(1), 1);
@@ -652,6 +732,20 @@ final class EdgesTest extends Texts {
         Checks.same("ask of 999", x.ask(60, 1, 0), 1);
         Checks.same("look(60, 1, 999)", x.look(60, 1, 999), 1);
         Checks.same("998 is not 999", x.fit(0), 0);
+        // a LOOK at a later HOUR told ahead of one at an earlier
+        x = Checks.told(TICK);
+        x.look(59, 0, 30);
+        x.look(0, 0, 0);
+        x.look(2, 0, 1);
+        Checks.same("the latest HOUR counts, told first", x.fit(0), 1);
+        Checks.same("on DAY 1", x.rests(0, 0), 2);
+        x.untell(2);
+        x.untell(0);
+        Checks.same("what is left", x.fit(0), 2);
+        for (int k : new int[] {-1, MIN, 0, -1}) {
+            Checks.same("ask(1, 1, " + k + ")", x.ask(1, 1, k), 1);
+            Checks.same("ask(2, 1, " + k + ")", x.ask(2, 1, k), 2);
+        }
         // by ask, the last THING, and of like ones the first
         x = Checks.told("week 2 hours 1;thing a 0 to 9;thing b 0 to 9;thing c 0 to 9;thing d 0 to 9;thing e 0 to 9;thing f 0 to 9;"
                 + "law k rests 0 if day=0 then f becomes 1;");
